@@ -275,25 +275,16 @@ public final class PathRunner {
         }
         seen.clear();
         for (int k = 0; k < hunt.pathCount; k++) {
-            if (!pathHolds(hunt.pathAt(k))) {
-                return false;
+            Way way = hunt.pathAt(k);
+            if (way.outcome == RETURNED) {
+                tokens.write(formulas, way.returned);
             }
-        }
-        return true;
-    }
-
-    private boolean pathHolds(Way way) {
-        if (way.outcome == RETURNED) {
-            tokens.write(formulas, way.returned);
-        }
-        for (int input = 0; input < INPUTS; input++) {
-            if (way.inputs.has(input)) {
-                if (seen.has(input)) {
-                    return false;
-                }
-                seen.add(input);
-                if (way.outcome != BIG && !inputHolds(way, input)) {
-                    return false;
+            for (int input = 0; input < INPUTS; input++) {
+                if (way.inputs.has(input)) {
+                    if (seen.has(input) || !inputHolds(way, input)) {
+                        return false;
+                    }
+                    seen.add(input);
                 }
             }
         }
@@ -302,6 +293,9 @@ public final class PathRunner {
 
     /** The tokens are those of the way's formula, if it returned a word. */
     private boolean inputHolds(Way way, int input) {
+        if (way.outcome == BIG) {
+            return true;
+        }
         int x = Inputs.xOf(input);
         int y = Inputs.yOf(input);
         machine.runPlain(plainWay, hunt.method, x, y, hunt.bound);
@@ -416,12 +410,12 @@ public final class PathRunner {
             return arguments[method];
         }
 
-        int opAt(int method, int operation) {
-            return ops[slot(method, operation)];
+        int opAt(int slot) {
+            return ops[slot];
         }
 
-        int numberAt(int method, int operation) {
-            return numbers[slot(method, operation)];
+        int numberAt(int slot) {
+            return numbers[slot];
         }
 
         /** The target of the first handler for a kind thrown at an operation, or NONE. */
@@ -505,7 +499,7 @@ public final class PathRunner {
         }
 
         int sizeOf(int formula) {
-            return isMade(formula) ? sizes[formula] : 1;
+            return formula >= FIRST_MADE && formula < used ? sizes[formula] : 1;
         }
 
         int leftOf(int formula) {
@@ -755,7 +749,7 @@ public final class PathRunner {
         }
 
         int slotNow() {
-            return Program.slot(methods[top], places[top]);
+            return methods[top] * MOST_OPERATIONS + places[top];
         }
 
         int height() {
@@ -777,7 +771,7 @@ public final class PathRunner {
         }
 
         void drop(int count) {
-            heights[top] = Math.max(0, heights[top] - count);
+            heights[top] = heights[top] > count ? heights[top] - count : 0;
         }
 
         void push(int value) {
@@ -827,13 +821,17 @@ public final class PathRunner {
             methods[top] = method;
             places[top] = 0;
             heights[top] = 0;
-            Arrays.fill(values, top * FRAME, top * FRAME + LOCALS, EMPTY);
+            for (int i = 0; i < LOCALS; i++) {
+                values[top * FRAME + i] = EMPTY;
+            }
         }
 
         int addArray(int length) {
             lengths[arrays] = length;
             int first = arrays * LONGEST;
-            Arrays.fill(elements, first, first + length, Formulas.number(0));
+            for (int i = 0; i < length; i++) {
+                elements[first + i] = Formulas.number(0);
+            }
             arrays++;
             return FIRST_ARRAY - (arrays - 1);
         }
@@ -924,11 +922,11 @@ public final class PathRunner {
         }
 
         int opOf(Way way) {
-            return program.opAt(way.methodNow(), way.operationNow());
+            return program.opAt(way.slotNow());
         }
 
         private int numberOf(Way way) {
-            return program.numberAt(way.methodNow(), way.operationNow());
+            return program.numberAt(way.slotNow());
         }
 
         /** Does the operation at hand, or tells that it is a SPLIT, and leaves the way as it is. */
@@ -1241,7 +1239,9 @@ public final class PathRunner {
             int at = choosePlace(order, ways, times);
             int taken = numbers[at];
             size--;
-            System.arraycopy(numbers, at + 1, numbers, at, size - at);
+            for (int i = at; i < size; i++) {
+                numbers[i] = numbers[i + 1];
+            }
             return taken;
         }
 
