@@ -24,6 +24,10 @@ final class Check {
         return wrong;
     }
 
+    int looked() {
+        return looked;
+    }
+
     void end(String name) {
         System.out.println(name + ": " + looked + " answers looked at, " + wrong + " wrong");
         if (wrong != 0 || looked == 0) {

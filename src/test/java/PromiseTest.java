@@ -2,17 +2,7 @@ import java.util.ArrayList;
 import java.util.List;
 
 /** Each promise by itself: ordinary inputs, edges, wrong inputs. The answers were worked out by hand. */
-public final class PromiseTest {
-    private static final int NONE = -1, BAD = -2, STATE = -3, FULL = -4;
-    private static final int PUSH = 0, LOAD = 1, STORE = 2, POP = 3, DUP = 4, SWAP = 5, ADD = 6, SUB = 7;
-    private static final int MUL = 8, DIV = 9, REM = 10, NEG = 11, AND = 12, OR = 13, XOR = 14, SHL = 15;
-    private static final int SHR = 16, GOTO = 17, LESS = 18, SAME = 19, NULL = 20, NEW = 21, GET = 22;
-    private static final int SET = 23, LENGTH = 24, CALL = 25, RETURN = 26, THROW = 27, NOTHING = 28;
-    private static final int NATIVE = 29;
-    private static final int LOW = Integer.MIN_VALUE, HIGH = Integer.MAX_VALUE;
-
-    private static final Check CHECK = new Check();
-
+public final class PromiseTest extends Cases {
     public static void main(String[] args) {
         newObject();
         method();
@@ -47,61 +37,6 @@ public final class PromiseTest {
         big();
         agrees();
         CHECK.end("PromiseTest");
-    }
-
-    private static void due(String call, int want, int got) {
-        CHECK.due(call, want, got);
-    }
-
-    private static void due(String call, boolean want, boolean got) {
-        CHECK.due(call, want, got);
-    }
-
-    /** Pairs of an operation and its number behind those of a method. */
-    private static void code(PathRunner r, int method, int... pairs) {
-        for (int i = 0; i < pairs.length; i += 2) {
-            if (r.operation(method, pairs[i], pairs[i + 1]) < 0) {
-                due("operation " + pairs[i] + " " + pairs[i + 1], 0, BAD);
-            }
-        }
-    }
-
-    /** A new object with one method of two arguments. */
-    private static PathRunner with(int... pairs) {
-        PathRunner r = new PathRunner(7);
-        r.method(2);
-        code(r, 0, pairs);
-        return r;
-    }
-
-    private static void ends(String what, PathRunner r, int x, int y, int bound, int... want) {
-        for (int i = 0; i < want.length; i++) {
-            due(what + ": plain(0, " + x + ", " + y + ", " + bound + ", " + i + ")", want[i],
-                    r.plain(0, x, y, bound, i));
-        }
-    }
-
-    private static void pathIs(PathRunner r, int k, int... want) {
-        for (int i = 0; i < want.length; i++) {
-            due("path(" + k + ", " + i + ")", want[i], r.path(k, i));
-        }
-    }
-
-    private static void conditionsAre(PathRunner r, int k, int... want) {
-        due("path(" + k + ", 4)", want.length / 2, r.path(k, 4));
-        for (int i = 0; i < want.length; i++) {
-            due("condition(" + k + ", " + i / 2 + ", " + i % 2 + ")", want[i],
-                    r.condition(k, i / 2, i % 2));
-        }
-    }
-
-    private static void tokensAre(PathRunner r, int k, int... want) {
-        due("path(" + k + ", 6)", want.length, r.path(k, 6));
-        for (int i = 0; i < want.length; i++) {
-            due("token(" + k + ", " + i + ")", want[i], r.token(k, i));
-        }
-        due("token behind the last", NONE, r.token(k, want.length));
-        due("token ahead of the first", NONE, r.token(k, -1));
     }
 
     private static void newObject() {
@@ -248,12 +183,6 @@ public final class PromiseTest {
         pathIs(r, 0, 1, 1, 0, 2, 0, 1024, 1);
         due("BAD", BAD, r.search(0, 0, 0, 9));
         due("BAD leaves what was searched", 1, r.told(4));
-    }
-
-    /** x below 0, or y below 0; then y below 5. */
-    private static PathRunner crossing() {
-        return with(LOAD, 0, PUSH, 0, LESS, 8, LOAD, 1, PUSH, 0, LESS, 8, LOAD, 0, RETURN, 0,
-                LOAD, 1, PUSH, 5, LESS, 12, PUSH, 1, LOAD, 1, RETURN, 0);
     }
 
     private static void searchOrders() {

@@ -23,12 +23,12 @@ public final class RoomTest {
         long me = Thread.currentThread().getId();
         everyCall(r);
         long before = threads.getThreadAllocatedBytes(me);
-        for (int i = 0; i < 40; i++) {
+        for (int i = 0; i < 36; i++) {
             everyCall(r);
         }
         long made = threads.getThreadAllocatedBytes(me) - before;
-        System.out.println("480 calls made " + made + " bytes");
-        check.due("480 calls make more than a few bytes", false, made > 4_096);
+        System.out.println("504 calls made " + made + " bytes");
+        check.due("504 calls make more than a few bytes", false, made > 4_096);
         check.end("RoomTest");
     }
 
@@ -55,6 +55,8 @@ public final class RoomTest {
         r.input(3, 3);
         r.flip(3, 3);
         r.pruned(3, 0);
+        r.times(0, 3);
+        r.plain(0, 3, 5, 200, 3);
         r.agrees();
     }
 
