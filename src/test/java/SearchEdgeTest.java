@@ -742,7 +742,8 @@ public final class SearchEdgeTest extends Cases {
 
     static void rowFullWith100Paths() {
         says("The row has at most 60 (and 100 PATHS have ended)");
-        // x AND 3, y AND 3, and so on with what is left of both, till a fifth array.
+        // x AND 3, y AND 3, and so on with what is left of both, till a fifth array. The seed was looked
+        // for, till the row was full at the last path; the counts are those of Model too.
         PathRunner r = new PathRunner(0);
         r.method(2);
         code(r, 0, LOAD, 0, PUSH, 3, AND, 0, NEW, 0, POP, 0, LOAD, 0, PUSH, 2, SHR, 0, LOAD, 1, STORE, 0,
